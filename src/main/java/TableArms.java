@@ -437,10 +437,13 @@ public final class TableArms {
         }
 
         void lay(int sheet, int lane, int n) {
-            if (isWithin(sheet, SHEETS)) {
-                lanes[sheet] = lane;
-                sizes[sheet] = n;
-                Arrays.fill(items, sheet * MOST_ITEMS, (sheet + 1) * MOST_ITEMS, 0);
+            if (!isWithin(sheet, SHEETS)) {
+                return;
+            }
+            lanes[sheet] = lane;
+            sizes[sheet] = n;
+            for (int i = 0; i < MOST_ITEMS; i++) {
+                items[sheet * MOST_ITEMS + i] = 0;
             }
         }
 

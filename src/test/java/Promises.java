@@ -425,6 +425,32 @@ public final class Promises {
         due(x.order(MAX), BAD);
         besideLooksAtTheFirstOnly();
         onTheBoxItCameFrom();
+        eachByNumbers();
+    }
+
+    private static void eachByNumbers() {
+        TableArms x = withTwoCupsAndCloths();
+        due(x.order(orderOf(EACH, CUP, ON, CLOTH)), 2);
+        due(x.where(0, 2), 2);
+        due(x.where(1, 2), 3);
+        x.back(0);
+        due(x.order(orderOf(ONE, CUP, ON, CLOTH)), 1);
+        due(x.where(0, 2), 2);
+        due(x.where(1, 2), 1);
+        x.back(0);
+        due(x.order(orderOf(EACH, CLOTH, BESIDE, CUP)), 1);
+        due(x.where(2, 2), 2);
+        due(x.where(3, 2), 4);
+    }
+
+    private static TableArms withTwoCupsAndCloths() {
+        TableArms x = new TableArms();
+        x.thing(CUP, 1, 0);
+        x.thing(CUP, 1, 1);
+        x.thing(CLOTH, 1, 2);
+        x.thing(CLOTH, 1, 3);
+        x.keep();
+        return x;
     }
 
     private static void besideLooksAtTheFirstOnly() {
@@ -617,6 +643,20 @@ public final class Promises {
         due(x.quarrel(), 4);
         x.unteach(2);
         due(x.quarrel(), 0);
+        due(quarrelOf(ONE, EACH), 1);
+        due(quarrelOf(EACH, ONE), 1);
+    }
+
+    private static int quarrelOf(int form, int otherForm) {
+        TableArms x = withTwoCupsAndCloths();
+        x.order(orderOf(form, CUP, ON, CLOTH));
+        x.keep();
+        x.back(0);
+        x.order(orderOf(otherForm, CUP, ON, CLOTH));
+        x.keep();
+        x.lesson(0, 1, 0, 0);
+        x.lesson(0, 2, 0, 0);
+        return x.quarrel();
     }
 
     private static void plan() {
@@ -654,6 +694,37 @@ public final class Promises {
         due(x.plan(0, 2), BAD);
         due(x.plan(0, -1), BAD);
         due(x.pile(7, -1), 3);
+        plansOfEach();
+        planByTheOther();
+    }
+
+    private static void plansOfEach() {
+        TableArms x = withTwoCupsAndCloths();
+        due(x.plan(orderOf(ONE, CUP, ON, CLOTH), 0), 1);
+        due(x.plan(orderOf(ONE, CUP, ON, CLOTH), 1), 2);
+        due(x.plan(orderOf(EACH, CUP, ON, CLOTH), 0), 2);
+        due(x.plan(orderOf(EACH, CUP, ON, CLOTH), 1), 2);
+        x.move(0, 1, 3);
+        due(x.plan(orderOf(ONE, CUP, ON, CLOTH), 0), 0);
+        due(x.plan(orderOf(EACH, CUP, ON, CLOTH), 0), 1);
+        x.move(0, 2, 3);
+        due(x.plan(orderOf(EACH, CUP, ON, CLOTH), 1), 3);
+        x.thing(CUP, 1, 7);
+        due(x.plan(orderOf(EACH, CUP, ON, CLOTH), 0), NONE);
+    }
+
+    /** The cup cannot move: the lid must come beside it, and no box may. */
+    private static void planByTheOther() {
+        TableArms x = new TableArms();
+        x.thing(CUP, 1, 0);
+        x.thing(CLOTH, 1, 0);
+        x.thing(BOX, 1, 7);
+        x.thing(LID, 1, 6);
+        x.reach(0, 255 - 1);
+        x.reach(1, 0);
+        due(x.plan(orderOf(ONE, CUP, BESIDE, LID), 0), 1);
+        due(x.plan(orderOf(ONE, CUP, BESIDE, LID), 1), 16 * 3 + 1);
+        due(x.plan(orderOf(ONE, CUP, ON, LID), 0), NONE);
     }
 
     private static void feed() {
@@ -695,6 +766,8 @@ public final class Promises {
         due(read(x, "Never cup in box;"), -1000100);
         due(read(x, "never cup in boX;"), -1000113);
         due(read(x, "never cup in at;"), -1000113);
+        due(read(x, "never cupz in box;"), -1000106);
+        due(read(x, "never acup in box;"), -1000106);
         due(read(x, "nevercup in box;"), -1000100);
         due(read(x, ";"), -1000100);
         due(read(x, "most 1 2 ; 3"), -1000111);
@@ -720,7 +793,7 @@ public final class Promises {
         due(x.fault(), 2);
         due(read(x, "most 0 2000;"), -1000107);
         due(x.fault(), 1);
-        due(read(x, "never cup at 9;"), -1000113);
+        due(read(x, "never cup at 8;"), -1000113);
         due(x.fault(), 2);
         read(x, "most 0 0;");
         due(x.fault(), 2);
@@ -831,6 +904,12 @@ public final class Promises {
         due(x.ways(0, 0, 1, 0), BAD);
         due(x.ways(0, 0, 13, 1), BAD);
         due(x.ways(0, 0, 1, 13), BAD);
+        x.sheet(0, 0, 24);
+        for (int k = 0; k < 12; k++) {
+            x.set(0, k, k % 2);
+            x.set(0, 12 + k, 6 + k % 2);
+        }
+        due(x.ways(0, 0, 12, 12), 11);
     }
 
     private static void kind() {
