@@ -74,6 +74,18 @@ final class EdgesOfLessons extends Edge {
             due(isTold(x, CUP, BESIDE, CLOTH), 0);
             due(isTold(x, CUP, BESIDE, BOX), 1);
         });
+        terms(2, "2 beside: it is the lowest of its PILE, and in the PILE of some NEIGHBOUR", () -> {
+            // What is in a box is in no pile, whatever the box's number and wherever the other is.
+            for (int box = 0; box < 4; box++) {
+                for (int cell = 0; cell < 8; cell++) {
+                    TableArms x = with(BOX, 1, 0, BOX, 1, 1, BOX, 1, 2, BOX, 1, 3, CUP, 1, 7, CLOTH, 1, 6);
+                    x.move(0, 4, 8 + box);
+                    x.move(0, 5, cell);
+                    due(isTold(x, CUP, BESIDE, CLOTH), 0);
+                    due(isTold(x, CLOTH, BESIDE, CUP), 0);
+                }
+            }
+        });
     }
 
     /** Things of two sorts far apart, so that each of the six ways to put one of them is another table. */
@@ -249,6 +261,14 @@ final class EdgesOfLessons extends Edge {
             due(boxed.order(orderOf(ONE, CUP, BESIDE, CLOTH)), STATE);
             TableArms closed = with(BOX, 1, 0, LID, 1, 1, LID, 1, 4, BOX, 1, 7, CUP, 1, 2);
             due(closed.order(orderOf(ONE, CUP, BESIDE, BOX)), STATE);
+        });
+        terms(2, "none: it cannot.", () -> {
+            // No cell is free beside the cloth, and a clear empty box is no cell.
+            TableArms x = with(BOX, 1, 7, CLOTH, 1, 4, LID, 1, 0, LID, 1, 5, CUP, 1, 2);
+            x.keep();
+            due(x.order(orderOf(ONE, CUP, BESIDE, CLOTH)), STATE);
+            due(x.order(orderOf(EACH, CUP, BESIDE, CLOTH)), STATE);
+            due(x.same(0, NONE), 1);
         });
         terms(2, "(Numbers tell which is first; ARMS are not asked.)", () -> {
             TableArms x = with(CUP, 1, 4, CUP, 1, 0, CLOTH, 1, 7, CLOTH, 1, 6);

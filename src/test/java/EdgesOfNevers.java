@@ -588,6 +588,30 @@ final class EdgesOfNevers extends Edge {
             due(z.let(0, 0, 9), 1);
             dueOn(z, 0, 7, 0);
         });
+        terms(3, "INTO a BOX: if it is SAFE behind it.", () -> {
+            // What goes into a box slips nowhere, and what goes to a cell slips into no box, whatever their numbers.
+            for (int box = 0; box < 6; box++) {
+                for (int cell = 0; cell < 8; cell++) {
+                    TableArms x = withOneBox(box);
+                    read(x, "never cup at " + cell + ";");
+                    due(x.let(0, box == 0 ? 1 : 0, 8 + box), 1);
+                    TableArms y = withOneBox(box);
+                    read(y, "never cup in box;");
+                    due(y.let(0, box == 0 ? 1 : 0, cell), 1);
+                    due(y.let(0, box == 0 ? 1 : 0, 8 + box), 0);
+                }
+            }
+        });
+    }
+
+    /** A cup, and a box of the number that is wanted; the others are lids in one pile. */
+    private static TableArms withOneBox(int box) {
+        TableArms x = new TableArms();
+        int cup = box == 0 ? 1 : 0;
+        for (int k = 0; k < 6; k++) {
+            x.thing(k == box ? BOX : k == cup ? CUP : LID, 1, k == box ? 3 : k == cup ? 6 : 0);
+        }
+        return x;
     }
 
     private static int waysOf(int n, int... cells) {
